@@ -539,18 +539,14 @@ public final class PracticeSheets {
             int becomeUntried = 0;
             for (int part = 0; part < PARTS; part++) {
                 boolean wasTried = tries[part] > 0;
-                tries[part] = afterWeeks(tries[part], weeks);
-                slips[part] = afterWeeks(slips[part], weeks);
+                // a shift by one place is a half, rounded down: one place a week
+                tries[part] >>= weeks;
+                slips[part] >>= weeks;
                 if (wasTried && tries[part] == 0) {
                     becomeUntried++;
                 }
             }
             return becomeUntried;
-        }
-
-        private static int afterWeeks(int number, int weeks) {
-            // a shift by one place a week is a half, rounded down, a week; 31 places empty any number
-            return number >> Math.min(weeks, 31);
         }
 
         int needOfAll(Word word) {

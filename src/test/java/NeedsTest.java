@@ -5,6 +5,8 @@ public final class NeedsTest {
         worstOfAll();
         missing();
         counts();
+        firstJoinIsNoLetter();
+        needOfOne();
         Check.end();
     }
 
@@ -95,5 +97,48 @@ public final class NeedsTest {
         for (int what : wrong) {
             Check.due("count(" + what + ")", x.count(what), Check.BAD);
         }
+    }
+
+    /** The join aa, whose number is the first one, is next to the letter z inside. */
+    private static void firstJoinIsNoLetter() {
+        PracticeSheets x = new PracticeSheets();
+        Check.write(x, "a-a");
+        Check.due("aa", x.join('a', 'a', 2), 33);
+        Check.due("no letter is missing", x.missing(false), 0);
+        Check.due("aa is missing", x.missing(true), 1);
+        Check.due("no letter is worst", x.worst(false, 0), Check.NONE);
+        Check.due("aa is worst", x.worst(true, 0), 0);
+        Check.due("letters that are untried", x.count(3), 25);
+        Check.due("joins that have tries", x.count(4), 1);
+        Check.due("greatest need of a letter", x.count(5), 0);
+        Check.due("greatest need of a join", x.count(6), 33);
+        Check.write(x, "z!a!z");
+        // a 1 of 3, 20; z 1 of 2, 25
+        Check.due("z is a letter", x.worst(false, 0), 25);
+        Check.due("then a", x.worst(false, 1), 0);
+        Check.due("no more", x.worst(false, 2), Check.NONE);
+        Check.due("aa alone", x.worst(true, 1), Check.NONE);
+    }
+
+    private static void needOfOne() {
+        PracticeSheets x = new PracticeSheets();
+        Check.write(x, "c!ccccccccccccc-c");
+        Check.text(x, "ccccccccccccccc");
+        for (int i = 0; i < 5; i++) {
+            x.write();
+        }
+        Check.due("100 / 92", x.letter('c', 2), 1);
+        Check.due("100 / 86", x.join('c', 'c', 2), 1);
+        Check.due("is missing", x.missing(false), 1);
+        Check.due("is missing", x.missing(true), 1);
+        Check.due("is told as the worst", x.worst(false, 0), 2);
+        Check.due("is told as the worst", x.worst(true, 0), 54);
+        Check.due("is the greatest", x.count(5), 1);
+        Check.due("is the greatest", x.count(6), 1);
+        x.write();
+        Check.due("100 / 107", x.letter('c', 2), 0);
+        Check.due("is not missing", x.missing(false), 0);
+        Check.due("is not told", x.worst(false, 0), Check.NONE);
+        Check.due("100 / 100", x.join('c', 'c', 2), 1);
     }
 }

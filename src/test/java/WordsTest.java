@@ -7,7 +7,9 @@ public final class WordsTest {
         faultsOfWords();
         fullList();
         removing();
+        removedWordsAreGone();
         tellingOfWords();
+        shorterWordsHaveNoMore();
         lettersOfWords();
         Check.end();
     }
@@ -78,6 +80,45 @@ public final class WordsTest {
         Check.due("it is not on the list", Check.add(x, "a,bb,ccc"), 2);
         Check.same("list", Check.list(x), "ccc a bb");
         Check.due("ccc has no a", x.letter('a', 3), 1);
+    }
+
+    private static void removedWordsAreGone() {
+        PracticeSheets x = new PracticeSheets();
+        Check.write(x, "b!");
+        Check.add(x, "a,b");
+        x.removeWord(1);
+        Check.due("no word has b", x.letter('b', 3), 0);
+        Check.due("b is missing", x.missing(false), 1);
+        Check.due("b is on no line", x.covers(10, 0), 1);
+        Check.due("b gains nothing", x.sheet(10, 0, 1), 5);
+        Check.due("b needs no sheet", x.sheetsTo(1, 0), 0);
+        Check.due("b is not written", x.doSheet(10), 1);
+        Check.due("b has its one try", x.letter('b', 0), 1);
+        Check.due("no word to remove", x.removeWord(1), Check.UNKNOWN);
+        Check.due("no word to tell", x.word(1, 0), Check.UNKNOWN);
+        Check.due("no letter to tell", x.letterOf(1, 0), Check.UNKNOWN);
+    }
+
+    /** A word that comes behind a longer one has nothing of it. */
+    private static void shorterWordsHaveNoMore() {
+        PracticeSheets x = new PracticeSheets();
+        Check.write(x, "a!-b!-c!");
+        Check.add(x, "abc,d,ba");
+        x.removeWord(0);
+        Check.due("parts of d", x.word(0, 2), 1);
+        Check.due("need of d", x.word(0, 1), 0);
+        Check.due("untried of d", x.word(0, 3), 1);
+        Check.due("gain of d", x.word(0, 4), 5);
+        Check.due("parts of ba", x.word(1, 2), 3);
+        Check.due("need of ba", x.word(1, 1), 66);
+        Check.due("untried of ba", x.word(1, 3), 1);
+        x.removeWord(1);
+        Check.due("letters that d covers", x.covers(1, 1), 1);
+        Check.due("joins that d covers", x.covers(1, 2), 0);
+        Check.due("needs that d covers", x.covers(1, 3), 0);
+        Check.due("d needs no sheet", x.sheetsTo(1, 0), 0);
+        Check.add(x, "xyz,q");
+        Check.due("untried of q", x.word(2, 3), 1);
     }
 
     private static void tellingOfWords() {
