@@ -6,6 +6,8 @@ public final class HistoryTest {
         statesHoldAll();
         snapshots();
         snapshotAndHistory();
+        whatIsNoAct();
+        anEmptySnapshotIsOne();
         Check.end();
     }
 
@@ -43,6 +45,7 @@ public final class HistoryTest {
         }
     }
 
+    /** "Each call of a method that is described as an act .. records the state that was before it." */
     private static void undoOfEachAct() {
         PracticeSheets x = new PracticeSheets();
         x.keep();
@@ -64,6 +67,7 @@ public final class HistoryTest {
         }
     }
 
+    /** "A history of at most 4 states is kept; when one more is recorded, the oldest one is dropped". */
     private static void onlyFourStates() {
         PracticeSheets x = new PracticeSheets();
         for (int i = 10; i < 20; i++) {
@@ -81,6 +85,7 @@ public final class HistoryTest {
         Check.due("setting", x.count(2), 15);
     }
 
+    /** "A state is everything but the text, ..". */
     private static void statesHoldAll() {
         PracticeSheets x = new PracticeSheets();
         Check.write(x, "a");
@@ -92,6 +97,7 @@ public final class HistoryTest {
         Check.due("a tries", x.letter('a', 0), 0);
     }
 
+    /** "There is one snapshot, empty at first." */
     private static void snapshots() {
         PracticeSheets x = new PracticeSheets();
         Check.due("no snapshot", x.restore(), Check.NONE);
@@ -116,6 +122,7 @@ public final class HistoryTest {
         Check.due("states", x.count(10), 4);
     }
 
+    /** "A state is everything but .. the history and the snapshot." */
     private static void snapshotAndHistory() {
         PracticeSheets x = new PracticeSheets();
         x.setUntried(1);
@@ -136,5 +143,46 @@ public final class HistoryTest {
         x.setUntried(3);
         x.restore();
         Check.due("a new snapshot is in place of the old one", x.count(2), 5);
+    }
+
+    /** What is not described as an act records nothing, in an empty history, among states, and in a full one. */
+    private static void whatIsNoAct() {
+        PracticeSheets x = new PracticeSheets();
+        for (int states = 0; states <= 4; states++) {
+            Check.due("states", x.count(10), states);
+            Check.due("type", x.type('a') > 0);
+            Check.due("clearText", x.clearText(), 1);
+            Check.due("keep", x.keep(), 0);
+            x.sheetsTo(10, 0);
+            x.covers(10, 3);
+            Check.due("states still", x.count(10), states);
+            x.setUntried(10 + states);
+        }
+        Check.due("states", x.count(10), 4);
+        Check.due("undo", x.undo(), 3);
+        Check.due("setting", x.count(2), 13);
+        Check.due("undo is not undone", x.undo(), 2);
+        Check.due("setting", x.count(2), 12);
+        Check.due("undo leaves the last snapshot", x.restore(), 0);
+        Check.due("setting", x.count(2), 13);
+    }
+
+    /** A snapshot of a new object is one, and brings all of it back. */
+    private static void anEmptySnapshotIsOne() {
+        PracticeSheets x = new PracticeSheets();
+        String first = told(x);
+        Check.due("keep", x.keep(), 0);
+        for (int i = 0; i < 6; i++) {
+            act(x, i);
+        }
+        Check.due("restore", x.restore(), 0);
+        Check.same("all is as at first", told(x), first);
+        Check.due("but for the history", x.count(10), 4);
+        Check.due("and the text", x.count(11), 8);
+        for (int left = 3; left >= 0; left--) {
+            Check.due("undo", x.undo(), left);
+        }
+        Check.due("restore, once more", x.restore(), 0);
+        Check.same("all is as at first", told(x), first);
     }
 }
